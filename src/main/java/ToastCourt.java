@@ -332,7 +332,9 @@ public final class ToastCourt {
         }
         int fitting = 0;
         for (int h = 1; h <= MOST_HEIGHT; h++) {
-            if (isHeightAsTold(h, sheets[s], disputant)) {
+            trial.become(real);
+            trial.height = h;
+            if (trialIsAsTold(sheets[s], disputant)) {
                 fitting++;
             }
         }
@@ -345,7 +347,9 @@ public final class ToastCourt {
             return tell(finding);
         }
         for (int h = 1; h <= MOST_HEIGHT; h++) {
-            if (isHeightAsTold(h, sheets[s], disputant)) {
+            trial.become(real);
+            trial.height = h;
+            if (trialIsAsTold(sheets[s], disputant)) {
                 return h;
             }
         }
@@ -668,12 +672,6 @@ public final class ToastCourt {
             trial.dropOnce();
         }
         return trial.all[disputant].right;
-    }
-
-    private boolean isHeightAsTold(int h, Sheet falls, int disputant) {
-        trial.become(real);
-        trial.height = h;
-        return trialIsAsTold(falls, disputant);
     }
 
     private boolean trialIsAsTold(Sheet falls, int disputant) {
@@ -1297,18 +1295,14 @@ public final class ToastCourt {
                 }
             } else if (isDigit(bytes[at])) {
                 token = NUMBER;
-                stepOverDigits();
+                number = 0;
+                while (behind < size && isDigit(bytes[behind])) {
+                    // Held just above the most, so that no row of digits wraps around.
+                    number = Math.min(10 * number + bytes[behind] - '0', MOST_NUMBER + 1);
+                    behind++;
+                }
             } else {
                 token = bytes[at] == ';' ? SIGN : NO_TOKEN;
-                behind++;
-            }
-        }
-
-        private void stepOverDigits() {
-            number = 0;
-            while (behind < size && isDigit(bytes[behind])) {
-                // Held just above the most, so that no row of digits wraps around.
-                number = Math.min(10 * number + bytes[behind] - '0', MOST_NUMBER + 1);
                 behind++;
             }
         }

@@ -179,6 +179,10 @@ public final class DropsTest {
             x.go(60);
         }
         Due.finds(x, "11: go(40) from 99960", () -> x.go(40), Due.STATE);
+        x.image();
+        Due.due("11: go(39) from 99960", x.go(39), 0);
+        Due.due("12: DROP", x.now(0), 99999);
+        x.undo();
         x.go(20);
         Due.finds(x, "27: toss(20) from 99980", () -> x.toss(20), Due.STATE);
         Due.due("27: toss(19) from 99980", x.toss(19), 0);

@@ -174,7 +174,17 @@ public final class HowTest {
         y.dispute(0, 0, 2);
         y.change(0, 1, 99);
         Due.due("23: silence(1, 2), by 0", y.silence(1, 2), 1);
-        // All seven others, of whom each finds it wrong once.
+        // 2 is found wrong if 0 or 1 makes 3 learn: 3 alone counts as fewer than 0 and 1, whose set is less.
+        ToastCourt w = new ToastCourt();
+        w.disputant(2, 99);
+        w.disputant(2, 99);
+        w.disputant(2, 45);
+        w.disputant(2, 43);
+        w.dispute(0, 0, 3);
+        w.dispute(1, 1, 3);
+        w.dispute(2, 3, 2);
+        Due.due("23: silence(2, 3)", w.silence(2, 3), 8);
+        // Six others, each of whom finds it wrong once.
         ToastCourt z = new ToastCourt();
         z.disputant(2, 0);
         for (int d = 1; d < 8; d++) {

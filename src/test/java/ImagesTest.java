@@ -39,6 +39,9 @@ public final class ImagesTest {
         for (int round = 0; round < 2; round++) {
             x.disputant(6, 6);
             x.hold(5, 4);
+            for (int what = 2; what < 6; what++) {
+                x.change(4, what, 1);
+            }
             x.hold(0, -1);
             x.set(0, 1);
             x.set(1, 1);
@@ -60,8 +63,10 @@ public final class ImagesTest {
             Due.due("41: the 5th is gone", x.of(4, 0), Due.BEYOND);
         }
         Due.due("41: a new 5th", x.disputant(0, 44), 4);
-        Due.due("41: of whom nothing is left over", x.of(4, 2), 20);
-        Due.due("41: nor here", x.of(4, 3), 0);
+        int[] first = {0, 44, 20, 0, 0, 0};
+        for (int what = 0; what < 6; what++) {
+            Due.due("41: nothing is left over of the old one: of(4, " + what + ")", x.of(4, what), first[what]);
+        }
     }
 
     private static void whatIsNotKept() {

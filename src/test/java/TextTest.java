@@ -103,6 +103,13 @@ public final class TextTest {
         Due.due("32: leading zeros", Due.text(x, "height 0000000000000000000000045;dispute 000 001 2"), 2);
         Due.due("32: HEIGHT", x.court(0), 45);
         Due.due("32: listed(0)", x.listed(0), 12);
+        // What stood on the tape before is gone, behind its end, too.
+        Due.due("32: a digit less", Due.text(x, "height 4"), 1);
+        Due.due("32: HEIGHT", x.court(0), 4);
+        Due.due("32: height 1", Due.text(x, "height 1"), 1);
+        Due.due("32: HEIGHT", x.court(0), 1);
+        Due.due("32: ends too early behind a blank that was", Due.text(x, "height"), -7);
+        Due.due("32: a letter less", Due.text(x, "heigh"), -1);
         // 4294967297 would be 1 in an int.
         Due.due("32: many digits", Due.text(x, "height 4294967297"), -8);
         Due.due("32: very many digits", Due.text(x, "height 18446744073709551617"), -8);
@@ -111,7 +118,8 @@ public final class TextTest {
     private static void faults() {
         Object[][] rows = {
             {"", 0}, {" ", 1}, {"   ", 3}, {";", 0}, {"  ;", 2}, {"5", 0}, {"judge", 0}, {"Aunt", 0}, {"aunts", 0},
-            {"aun", 0}, {"cause 5", 0}, {"silent", 0}, {"temper", 0}, {"#", 0}, {"aunt;", 5}, {"aunt; ", 6},
+            {"aun", 0}, {"auntz", 0}, {"aaunt", 0}, {"bunt", 0}, {"weight 5", 0}, {"aunt pause 5", 5},
+            {"cause 5", 0}, {"silent", 0}, {"temper", 0}, {"#", 0}, {"aunt;", 5}, {"aunt; ", 6},
             {"aunt;;", 5}, {"aunt aunt", 5}, {"aunt 5", 5}, {"aunt #", 5}, {"aunt#", 4}, {"aunt\t", 4},
             {"aunt\n;", 4}, {"aunt cause", 10}, {"aunt cause ", 11}, {"aunt cause ;", 11}, {"aunt cause x", 11},
             {"aunt cause 100", 11}, {"aunt cause 1000", 11}, {"aunt cause -1", 11}, {"aunt cause 99 5", 14},

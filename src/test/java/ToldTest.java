@@ -2,6 +2,7 @@
 public final class ToldTest {
     public static void main(String[] args) {
         byHand();
+        highest();
         anyOf(8);
         anyOf(16);
         anyOf(32);
@@ -53,6 +54,18 @@ public final class ToldTest {
         Due.due("24: fits of -2, any, 2", x.fits(0, 0), 0);
         Due.due("24: HEIGHT is as it was", x.court(0), 12);
         Due.due("26: KIND is as it was", x.of(0, 0), 2);
+    }
+
+    /** 60 is the one height with 17 turns: 26 with 9 jolts stand, and 25 with 8 fall for the lawyer. */
+    private static void highest() {
+        ToastCourt x = new ToastCourt();
+        x.disputant(0, 0);
+        x.disputant(2, 99);
+        x.change(0, 2, 90);
+        x.set(1, 8);
+        x.sheet(0, 8, 3);
+        Due.due("24: fits of the highest", x.fits(0, 0), 1);
+        Due.due("25: height, the highest", x.height(0, 0), 60);
     }
 
     private static void anyOf(int bits) {

@@ -1175,6 +1175,7 @@ public final class ToastCourt {
             return -1 - at;
         }
 
+        /** The first word alone settles which item it is: behind it no other item is tried. */
         private boolean readItem(Court court) {
             int kind = kindOfWord();
             if (kind >= 0) {
@@ -1183,15 +1184,11 @@ public final class ToastCourt {
             if (isWord("dispute")) {
                 return readDispute(court);
             }
-            if (isWord("height") && stepsToNumber(1, MOST_HEIGHT)) {
-                court.height = number;
-                step();
-                return true;
+            if (isWord("height")) {
+                return readHeight(court);
             }
-            if (isWord("spread") && stepsToNumber(0, MOST_SPREAD)) {
-                court.spread = number;
-                step();
-                return true;
+            if (isWord("spread")) {
+                return readSpread(court);
             }
             return false;
         }
@@ -1258,6 +1255,24 @@ public final class ToastCourt {
                 return false;
             }
             court.list[place] = 10 * a + number;
+            step();
+            return true;
+        }
+
+        private boolean readHeight(Court court) {
+            if (!stepsToNumber(1, MOST_HEIGHT)) {
+                return false;
+            }
+            court.height = number;
+            step();
+            return true;
+        }
+
+        private boolean readSpread(Court court) {
+            if (!stepsToNumber(0, MOST_SPREAD)) {
+                return false;
+            }
+            court.spread = number;
             step();
             return true;
         }

@@ -4,7 +4,6 @@ public final class AheadTest {
         byHand();
         againstGoing();
         calmByCooling();
-        reach();
         findings();
         Due.end("AheadTest");
     }
@@ -103,42 +102,6 @@ public final class AheadTest {
         Due.due("17: calm(0, 94)", x.calm(0, 94), 1);
         Due.due("17: calm(0, 93)", x.calm(0, 93), 2);
         Due.due("17: calm(0, 0)", x.calm(0, 0), 20);
-    }
-
-    /** The 200th drop is the first that does it (in place 1), or the 201st (in place 2). */
-    private static void reach() {
-        for (int place = 1; place <= 2; place++) {
-            boolean isNear = place == 1;
-            ToastCourt x = emptyList();
-            x.disputant(2, 0);
-            x.disputant(2, 99);
-            // 12 turns: 0, who presses less, and is B where it has learnt to press as much.
-            x.dispute(place, 1, 0);
-            Due.due("14: wrong(0, 33) in place " + place, x.wrong(0, 33), 193 + place);
-            Due.due("14: wrong(0, 34) in place " + place, x.wrong(0, 34), isNear ? 200 : Due.NONE);
-            Due.due("15: right(1, 33) in place " + place, x.right(1, 33), 193 + place);
-            Due.due("15: right(1, 34) in place " + place, x.right(1, 34), isNear ? 200 : Due.NONE);
-
-            ToastCourt y = emptyList();
-            y.disputant(2, 91);
-            y.disputant(0, 0);
-            y.dispute(place, 0, 1);
-            y.set(0, 9);
-            y.change(1, 2, 53 + place);
-            // 14 turns and TEMPER of 1 as before a round ago, till it has learnt to press 96 at the
-            // 33rd time; then 0 is found wrong, 1 cools, and the 34th time there are 13.
-            Due.due("16: stands() in place " + place, y.stands(), isNear ? 200 : Due.NONE);
-            Due.due("17: calm(1, 47) in place " + place, y.calm(1, 47), 198 + place);
-            Due.due("17: calm(1, 46) in place " + place, y.calm(1, 46), isNear ? 200 : Due.NONE);
-        }
-    }
-
-    private static ToastCourt emptyList() {
-        ToastCourt x = new ToastCourt();
-        for (int i = 0; i < 6; i++) {
-            x.dispute(i, 7, 7);
-        }
-        return x;
     }
 
     private static void findings() {

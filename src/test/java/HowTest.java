@@ -223,7 +223,7 @@ public final class HowTest {
         Due.due("18: as it was" + court, was.equals(Due.picture(x)) ? 1 : 0, 1);
     }
 
-    private static int heightOf(ToastCourt x, int d, int n) {
+    static int heightOf(ToastCourt x, int d, int n) {
         for (int h = 1; h <= 60; h++) {
             Oracle o = Oracle.of(x);
             o.height = h;
@@ -234,7 +234,7 @@ public final class HowTest {
         return Due.NONE;
     }
 
-    private static int spreadOf(ToastCourt x, int d, int n) {
+    static int spreadOf(ToastCourt x, int d, int n) {
         int[] rights = new int[10];
         for (int s = 0; s < 10; s++) {
             Oracle o = Oracle.of(x);
@@ -244,23 +244,17 @@ public final class HowTest {
         return placeOfMost(rights);
     }
 
-    private static int kindOf(ToastCourt x, int d, int n) {
+    static int kindOf(ToastCourt x, int d, int n) {
         int[] rights = new int[7];
         for (int kind = 0; kind < 7; kind++) {
             Oracle o = Oracle.of(x);
-            Oracle.One one = Oracle.ofKind(kind);
-            one.cause = x.of(d, 1);
-            one.temper = x.of(d, 2);
-            one.wrong = x.of(d, 3);
-            one.right = x.of(d, 4);
-            one.silent = x.of(d, 5) == 1;
-            o.all.set(d, one);
+            o.all.set(d, Oracle.as(o.all.get(d), kind));
             rights[kind] = o.go(n).all.get(d).right;
         }
         return placeOfMost(rights);
     }
 
-    private static int rivalOf(ToastCourt x, int d, int n) {
+    static int rivalOf(ToastCourt x, int d, int n) {
         int[] rights = new int[x.count(1)];
         for (int other = 0; other < rights.length; other++) {
             Oracle o = Oracle.of(x);
@@ -270,7 +264,7 @@ public final class HowTest {
         return rights.length == 1 ? Due.NONE : placeOfMost(rights);
     }
 
-    private static int causeOf(ToastCourt x, int d, int v, int n) {
+    static int causeOf(ToastCourt x, int d, int v, int n) {
         for (int cause = 0; cause < 100; cause++) {
             Oracle o = Oracle.of(x);
             o.all.get(d).cause = cause;
@@ -281,7 +275,7 @@ public final class HowTest {
         return Due.NONE;
     }
 
-    private static int silenceOf(ToastCourt x, int d, int n) {
+    static int silenceOf(ToastCourt x, int d, int n) {
         int best = Due.NONE;
         for (int set = 0; set < 1 << x.count(1); set++) {
             Oracle o = Oracle.of(x);

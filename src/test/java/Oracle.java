@@ -4,6 +4,7 @@
  */
 final class Oracle {
     static class One {
+        int kind;
         int cause;
         int temper = 20;
         int wrong;
@@ -173,6 +174,12 @@ final class Oracle {
     }
 
     static One ofKind(int kind) {
+        One one = bare(kind);
+        one.kind = kind;
+        return one;
+    }
+
+    private static One bare(int kind) {
         switch (kind) {
             case 1:
                 return new Aunt();
@@ -191,6 +198,30 @@ final class Oracle {
         }
     }
 
+    /** The same as another kind. */
+    static One as(One like, int kind) {
+        One one = ofKind(kind);
+        one.cause = like.cause;
+        one.temper = like.temper;
+        one.wrong = like.wrong;
+        one.right = like.right;
+        one.silent = like.silent;
+        return one;
+    }
+
+    Oracle copy() {
+        Oracle o = new Oracle();
+        o.height = height;
+        o.spread = spread;
+        o.edges = edges;
+        o.drop = drop;
+        System.arraycopy(list, 0, o.list, 0, 6);
+        for (One one : all) {
+            o.all.add(as(one, one.kind));
+        }
+        return o;
+    }
+
     Oracle go(int n) {
         for (int k = 0; k < n; k++) {
             goOnce();
@@ -198,11 +229,16 @@ final class Oracle {
         return this;
     }
 
+    boolean fallsOut() {
+        int a = list[drop % 6] / 10;
+        int b = list[drop % 6] % 10;
+        return a >= all.size() || b >= all.size() || a == b || all.get(a).silent || all.get(b).silent;
+    }
+
     private void goOnce() {
         int a = list[drop % 6] / 10;
         int b = list[drop % 6] % 10;
-        boolean out = a >= all.size() || b >= all.size() || a == b || all.get(a).silent || all.get(b).silent;
-        if (!out) {
+        if (!fallsOut()) {
             One found = falls(height, all.get(a), all.get(b));
             if (found == null) {
                 edges = Math.min(9999, edges + 1);

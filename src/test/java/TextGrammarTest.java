@@ -9,14 +9,15 @@ import java.util.regex.Pattern;
  * pattern over tokens, each with one blank behind it) and against the calls that tell the same.
  */
 public final class TextGrammarTest {
-    private static final String[] KINDS = {"disputant", "aunt", "lawyer", "parson", "bishop", "child", "twin"};
+    static final String[] KINDS = {"disputant", "aunt", "lawyer", "parson", "bishop", "child", "twin"};
     private static final String ITEM = "(?:(?:" + String.join("|", KINDS) + ") "
         + "(?:cause 0*[0-9]{1,2} )?(?:temper 0*[0-9]{1,2} )?(?:silent )?"
         + "|dispute 0*[0-5] 0*[0-7] 0*[0-7] |height 0*(?:[1-9]|[1-5][0-9]|60) |spread 0*[0-9] )";
-    private static final Pattern TEXT = Pattern.compile(ITEM + "(?:; " + ITEM + ")*");
+    static final Pattern TEXT = Pattern.compile(ITEM + "(?:; " + ITEM + ")*");
 
     private static final String[] FEW = {
-        "aunt", "bishop", "cause", "temper", "silent", "dispute", "height", "spread", ";", "0", "5", "7", "60", "99", "x",
+        "aunt", "bishop", "cause", "temper", "silent", "dispute", "height", "spread", ";", "0", "5", "7", "60", "99",
+        "x",
     };
     private static final String[] MANY = {
         "disputant", "aunt", "lawyer", "parson", "bishop", "child", "twin", "cause", "temper", "silent", "dispute",

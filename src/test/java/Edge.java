@@ -81,6 +81,21 @@ final class Edge {
         }
     }
 
+    /** "STATE: DROP would be above 99999.": just at it, just above it, and behind BEYOND. */
+    static void state(String call, With act, int most) {
+        for (int[] r : new int[][] {{most, most}, {most - 1, most - 1}, {most + 1, most}, {1, 1}, {2, 1}}) {
+            answers(call + "(" + r[1] + ") " + r[0] + " before the last, then DROP", x -> Made.late(x, r[0]),
+                x -> then(act.on(x, r[1]), x.now(0)), 99999 - r[0] + r[1]);
+        }
+        for (int[] r : new int[][] {{most - 1, most}, {0, 1}, {0, most}, {1, 2}}) {
+            refuses(call + "(" + r[1] + ") " + r[0] + " before the last", x -> Made.late(x, r[0]),
+                x -> act.on(x, r[1]), Due.STATE);
+        }
+        for (int n : new int[] {LEAST, -1, 0, most + 1, MOST}) {
+            refuses(call + "(" + n + ") at the last", x -> Made.late(x, 0), x -> act.on(x, n), Due.BEYOND);
+        }
+    }
+
     /** Nothing is other than if the call had not been made. */
     static void leaves(String call, Making making, Call act) {
         same(call + " changes nothing", making, x -> {

@@ -101,10 +101,10 @@ public final class EdgesCourtTest {
             Made.standing(x);
             x.go(7);
         }, (x, what) -> x.court(what), Edge.ends(0, 2), Edge.wants(13, 7));
-        Edge.looks("3: court(1)", Made::full, x -> x.court(1), 7);
+        int[] want = {32, 7, 2};
         for (int what = 0; what < 3; what++) {
             int w = what;
-            Edge.leaves("3: court(" + w + ")", Made::full, x -> x.court(w));
+            Edge.looks("3: court(" + w + ")", Made::full, x -> x.court(w), want[w]);
         }
     }
 

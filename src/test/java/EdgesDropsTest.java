@@ -21,17 +21,9 @@ public final class EdgesDropsTest {
         Due.end("EdgesDropsTest");
     }
 
-    /** An aunt who is found WRONG at each DROP: 11 TURNS and 3, or 10 as her TEMPER grows, are odd. */
-    private static void angry(ToastCourt x) {
-        x.disputant(1, 99);
-        x.disputant(2, 10);
-        x.change(0, 2, 99);
-        x.set(0, 11);
-    }
-
     /** 11: "n DROPS (1 to 60): WRONG of all together then. BEYOND." */
     private static void goHowMany() {
-        Edge.range("11: go(n)", EdgesDropsTest::angry, (x, n) -> x.go(n), Edge.ends(1, 60), Edge.wants(1, 60));
+        Edge.range("11: go(n)", Made::angry, (x, n) -> x.go(n), Edge.ends(1, 60), Edge.wants(1, 60));
         Edge.range("11: go(n), full", Made::full, (x, n) -> x.go(n), Edge.ends(1, 60),
             Edge.wants(oracle(1).wrongs(), oracle(60).wrongs()));
         Edge.range("11: go(n) of nobody", Made::nothing, (x, n) -> x.go(n), Edge.ends(1, 60), Edge.wants(0, 0));
@@ -55,21 +47,7 @@ public final class EdgesDropsTest {
 
     /** 11: "STATE: DROP would be above 99999.", asked behind BEYOND. */
     private static void goState() {
-        int[][] rows = {{60, 60}, {59, 59}, {1, 1}, {2, 1}, {61, 60}};
-        for (int[] r : rows) {
-            Edge.answers("11: go(" + r[1] + ") " + r[0] + " before the last", x -> Made.late(x, r[0]), x -> x.go(r[1]),
-                0);
-            Edge.answers("11: DROP then", x -> Made.late(x, r[0]), x -> Edge.then(x.go(r[1]), x.now(0)),
-                99999 - r[0] + r[1]);
-        }
-        int[][] above = {{59, 60}, {0, 1}, {0, 60}, {1, 2}};
-        for (int[] r : above) {
-            Edge.refuses("11: go(" + r[1] + ") " + r[0] + " before the last", x -> Made.late(x, r[0]),
-                x -> x.go(r[1]), Due.STATE);
-        }
-        for (int n : new int[] {0, -1, 61, Edge.MOST, Edge.LEAST}) {
-            Edge.refuses("11: go(" + n + ") at the last", x -> Made.late(x, 0), x -> x.go(n), Due.BEYOND);
-        }
+        Edge.state("11: go", (x, n) -> x.go(n), 60);
     }
 
     /** 12: "What 0 DROP, .. 7 .. BEYOND." */
@@ -77,8 +55,7 @@ public final class EdgesDropsTest {
         Edge.range("12: now(what)", Made::full, (x, what) -> x.now(what), Edge.ends(0, 7), Edge.wants(11, 0));
         Edge.range("12: now(what) of nobody", Made::nothing, (x, what) -> x.now(what), Edge.ends(0, 7), Edge.wants(0,
             1));
-        int edges = Edge.made(Made::full).court(2);
-        int[] want = {11, 268, edges, 240, 532, 4, 64, 0};
+        int[] want = {11, 268, 2, 240, 532, 4, 64, 0};
         for (int what = 0; what < 8; what++) {
             int w = what;
             Edge.looks("12: now(" + w + ")", Made::full, x -> x.now(w), want[w]);
@@ -171,7 +148,7 @@ public final class EdgesDropsTest {
     private static void aheadOne() {
         Edge.range("13: ahead(disputant, 1, 0)", Made::full, (x, d) -> x.ahead(d, 1, 0), Edge.ends(0, 7),
             Edge.wants(2, 79));
-        Edge.range("13: ahead(disputant, 3, 1) of two", EdgesDropsTest::angry, (x, d) -> x.ahead(d, 3, 1),
+        Edge.range("13: ahead(disputant, 3, 1) of two", Made::angry, (x, d) -> x.ahead(d, 3, 1),
             Edge.ends(0, 1), Edge.wants(1, 0));
         Edge.refuses("13: ahead(0, 1, 0) of nobody", Made::nothing, x -> x.ahead(0, 1, 0), Due.BEYOND);
     }
@@ -190,13 +167,13 @@ public final class EdgesDropsTest {
 
     /** 13: "behind n (0 to 100) DROPS". */
     private static void aheadHowMany() {
-        Edge.range("13: ahead(0, 3, n)", EdgesDropsTest::angry, (x, n) -> x.ahead(0, 3, n), Edge.ends(0, 100),
+        Edge.range("13: ahead(0, 3, n)", Made::angry, (x, n) -> x.ahead(0, 3, n), Edge.ends(0, 100),
             Edge.wants(0, 100));
-        Edge.range("13: ahead(1, 4, n)", EdgesDropsTest::angry, (x, n) -> x.ahead(1, 4, n), Edge.ends(0, 100),
+        Edge.range("13: ahead(1, 4, n)", Made::angry, (x, n) -> x.ahead(1, 4, n), Edge.ends(0, 100),
             Edge.wants(0, 100));
         for (int n : new int[] {0, 1, 99, 100}) {
-            Edge.looks("13: ahead(0, 3, " + n + ")", EdgesDropsTest::angry, x -> x.ahead(0, 3, n), n);
-            Edge.looks("13: ahead(0, 2, " + n + ")", EdgesDropsTest::angry, x -> x.ahead(0, 2, n), n == 0 ? 99 : 98);
+            Edge.looks("13: ahead(0, 3, " + n + ")", Made::angry, x -> x.ahead(0, 3, n), n);
+            Edge.looks("13: ahead(0, 2, " + n + ")", Made::angry, x -> x.ahead(0, 2, n), n == 0 ? 99 : 98);
             Oracle then = oracle(n);
             for (int d = 0; d < 8; d++) {
                 int one = d;
@@ -215,14 +192,14 @@ public final class EdgesDropsTest {
     private static void wrongOneAndHowOften() {
         Edge.range("14: wrong(disputant, 0)", Made::full, (x, d) -> x.wrong(d, 0), Edge.ends(0, 7), Edge.wants(0, 0));
         Edge.range("14: wrong(0, v)", x -> {
-            angry(x);
+            Made.angry(x);
             x.change(0, 3, 9990);
         }, (x, v) -> x.wrong(0, v), Edge.ends(0, 9999), Edge.wants(0, 9));
         Edge.refuses("14: wrong(0, 0) of nobody", Made::nothing, x -> x.wrong(0, 0), Due.BEYOND);
         // BEYOND is asked ahead of NONE.
-        Edge.refuses("14: wrong(1, 9999)", EdgesDropsTest::angry, x -> x.wrong(1, 9999), Due.NONE);
-        Edge.refuses("14: wrong(2, 9999)", EdgesDropsTest::angry, x -> x.wrong(2, 9999), Due.BEYOND);
-        Edge.refuses("14: wrong(1, 10000)", EdgesDropsTest::angry, x -> x.wrong(1, 10000), Due.BEYOND);
+        Edge.refuses("14: wrong(1, 9999)", Made::angry, x -> x.wrong(1, 9999), Due.NONE);
+        Edge.refuses("14: wrong(2, 9999)", Made::angry, x -> x.wrong(2, 9999), Due.BEYOND);
+        Edge.refuses("14: wrong(1, 10000)", Made::angry, x -> x.wrong(1, 10000), Due.BEYOND);
         int[][] rows = {{29, 0}, {30, 0}};
         for (int[] r : rows) {
             Edge.looks("14: wrong(0, " + r[0] + ") of 30", Made::full, x -> x.wrong(0, r[0]), r[1]);
@@ -236,7 +213,7 @@ public final class EdgesDropsTest {
             {9800, 9999, 199}, {9998, 9999, 1}, {9999, 9999, 0}};
         for (int[] r : rows) {
             Edge.Making making = x -> {
-                angry(x);
+                Made.angry(x);
                 x.change(0, 3, r[0]);
             };
             Edge.told("14: wrong(0, " + r[1] + ") of " + r[0], making, x -> x.wrong(0, r[1]), r[2]);
@@ -264,13 +241,13 @@ public final class EdgesDropsTest {
     private static void rightOneAndHowOften() {
         Edge.range("15: right(disputant, 0)", Made::full, (x, d) -> x.right(d, 0), Edge.ends(0, 7), Edge.wants(0, 0));
         Edge.range("15: right(1, v)", x -> {
-            angry(x);
+            Made.angry(x);
             x.change(1, 4, 9990);
         }, (x, v) -> x.right(1, v), Edge.ends(0, 9999), Edge.wants(0, 9));
         Edge.refuses("15: right(0, 0) of nobody", Made::nothing, x -> x.right(0, 0), Due.BEYOND);
-        Edge.refuses("15: right(0, 9999)", EdgesDropsTest::angry, x -> x.right(0, 9999), Due.NONE);
-        Edge.refuses("15: right(2, 9999)", EdgesDropsTest::angry, x -> x.right(2, 9999), Due.BEYOND);
-        Edge.refuses("15: right(0, 10000)", EdgesDropsTest::angry, x -> x.right(0, 10000), Due.BEYOND);
+        Edge.refuses("15: right(0, 9999)", Made::angry, x -> x.right(0, 9999), Due.NONE);
+        Edge.refuses("15: right(2, 9999)", Made::angry, x -> x.right(2, 9999), Due.BEYOND);
+        Edge.refuses("15: right(0, 10000)", Made::angry, x -> x.right(0, 10000), Due.BEYOND);
     }
 
     /** 15: "Behind how many DROPS (0 to 200, the fewest)". "NONE." */
@@ -279,7 +256,7 @@ public final class EdgesDropsTest {
             {9798, 9999, Due.NONE}, {9799, 9999, 200}, {9998, 9999, 1}, {9999, 9999, 0}};
         for (int[] r : rows) {
             Edge.Making making = x -> {
-                angry(x);
+                Made.angry(x);
                 x.change(1, 4, r[0]);
             };
             Edge.told("15: right(1, " + r[1] + ") of " + r[0], making, x -> x.right(1, r[1]), r[2]);
@@ -333,9 +310,9 @@ public final class EdgesDropsTest {
             x.change(0, 2, 99);
         }, (x, v) -> x.calm(0, v), Edge.ends(0, 99), Edge.wants(20, 0));
         Edge.refuses("17: calm(0, 99) of nobody", Made::nothing, x -> x.calm(0, 99), Due.BEYOND);
-        Edge.refuses("17: calm(0, 0)", EdgesDropsTest::angry, x -> x.calm(0, 0), Due.NONE);
-        Edge.refuses("17: calm(2, 0)", EdgesDropsTest::angry, x -> x.calm(2, 0), Due.BEYOND);
-        Edge.refuses("17: calm(0, -1)", EdgesDropsTest::angry, x -> x.calm(0, -1), Due.BEYOND);
+        Edge.refuses("17: calm(0, 0)", Made::angry, x -> x.calm(0, 0), Due.NONE);
+        Edge.refuses("17: calm(2, 0)", Made::angry, x -> x.calm(2, 0), Due.BEYOND);
+        Edge.refuses("17: calm(0, -1)", Made::angry, x -> x.calm(0, -1), Due.BEYOND);
     }
 
     /** 17: "Behind how many DROPS (0 to 200, the fewest)". "NONE." */
@@ -348,8 +325,8 @@ public final class EdgesDropsTest {
                 x.change(0, 2, r[0]);
             }, x -> x.calm(0, r[1]), r[2]);
         }
-        Edge.told("17: calm(0, 98) of the aunt", EdgesDropsTest::angry, x -> x.calm(0, 98), 1);
-        Edge.told("17: calm(0, 97) of the aunt", EdgesDropsTest::angry, x -> x.calm(0, 97), Due.NONE);
+        Edge.told("17: calm(0, 98) of the aunt", Made::angry, x -> x.calm(0, 98), 1);
+        Edge.told("17: calm(0, 97) of the aunt", Made::angry, x -> x.calm(0, 97), Due.NONE);
         for (int place = 1; place <= 2; place++) {
             int at = place;
             Edge.Making making = x -> standsLate(x, at);

@@ -38,14 +38,6 @@ public final class EdgesHowTest {
             HowTest.heightOf(Edge.made(Made::full), 7, 60));
     }
 
-    /** 60 is the one height whose slice stands (26) and then falls for the other one (25). */
-    private static void highest(ToastCourt x) {
-        x.disputant(0, 0);
-        x.disputant(2, 99);
-        x.change(0, 2, 90);
-        x.set(1, 8);
-    }
-
     /** 2 has all DROPS, and from each height one of these finds it wrong. */
     private static void doomed(ToastCourt x) {
         x.disputant(0, 0);
@@ -61,8 +53,8 @@ public final class EdgesHowTest {
 
     /** 18: "The least HEIGHT": 1, 60; "NONE.", asked behind BEYOND. */
     private static void heightLeastAndNone() {
-        Edge.looks("18: heightFor(0, 0), the lowest", EdgesHowTest::highest, x -> x.heightFor(0, 0), 1);
-        Edge.looks("18: heightFor(0, 2), the highest", EdgesHowTest::highest, x -> x.heightFor(0, 2), 60);
+        Edge.looks("18: heightFor(0, 0), the lowest", Made::highest, x -> x.heightFor(0, 0), 1);
+        Edge.looks("18: heightFor(0, 2), the highest", Made::highest, x -> x.heightFor(0, 2), 60);
         Due.due("18: NONE by the oracle", HowTest.heightOf(Edge.made(EdgesHowTest::doomed), 2, 60), Due.NONE);
         Edge.refuses("18: heightFor(2, 60)", EdgesHowTest::doomed, x -> x.heightFor(2, 60), Due.NONE);
         Edge.refuses("18: heightFor(2, 61)", EdgesHowTest::doomed, x -> x.heightFor(2, 61), Due.BEYOND);

@@ -214,7 +214,7 @@ public final class EdgesImagesTest {
         Edge.range("43: count(what)", Made::full, (x, what) -> x.count(what), Edge.ends(0, 7), Edge.wants(11, 2));
         Edge.range("43: count(what) at first", Made::nothing, (x, what) -> x.count(what), Edge.ends(0, 7),
             Edge.wants(0, 0));
-        int[] want = {11, 8, 268, Edge.made(Made::full).court(2), 532, 31, -77, 2};
+        int[] want = {11, 8, 268, 2, 532, 31, -77, 2};
         for (int what = 0; what < 8; what++) {
             int w = what;
             Edge.looks("43: count(" + w + ")", Made::full, x -> x.count(w), want[w]);

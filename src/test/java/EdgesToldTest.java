@@ -101,13 +101,9 @@ public final class EdgesToldTest {
             x.write(0, 39, 1);
         }, 0, 0, new int[] {0, Due.NONE, 0});
         Edge.Making highest = x -> {
-            x.disputant(0, 0);
-            x.disputant(2, 99);
-            x.change(0, 2, 90);
-            x.set(1, 8);
+            Made.highest(x);
             x.sheet(0, 8, 3);
         };
-        // 60 alone gives 17 TURNS: 26 with 9 jolts stand, and 25 with 8 fall for the lawyer.
         Edge.told("24: fits of the highest alone", highest, x -> x.fits(0, 0), 1);
         Edge.told("25: height, the highest", highest, x -> x.height(0, 0), 60);
     }
@@ -143,12 +139,8 @@ public final class EdgesToldTest {
 
     /** 24: "and behind each DROP further on": number i behind i DROPS, the 40th behind 39. */
     private static void behindEachDrop() {
-        // An aunt who is found WRONG at each DROP as long as it is dropped from 11.
         Edge.Making angry = x -> {
-            x.disputant(1, 99);
-            x.disputant(2, 10);
-            x.change(0, 2, 99);
-            x.set(0, 11);
+            Made.angry(x);
             x.sheet(0, 8, 40);
             for (int i = 0; i < 40; i++) {
                 x.write(0, i, i);
@@ -255,19 +247,7 @@ public final class EdgesToldTest {
 
     /** 27: "STATE: DROP would be above 99999.", asked behind BEYOND. */
     private static void tossState() {
-        int[][] fine = {{20, 20}, {19, 19}, {1, 1}, {21, 20}};
-        for (int[] r : fine) {
-            Edge.answers("27: toss(" + r[1] + ") " + r[0] + " before the last", x -> Made.late(x, r[0]),
-                x -> Edge.then(x.toss(r[1]), x.now(0)), 99999 - r[0] + r[1]);
-        }
-        int[][] above = {{19, 20}, {0, 1}, {0, 20}, {1, 2}};
-        for (int[] r : above) {
-            Edge.refuses("27: toss(" + r[1] + ") " + r[0] + " before the last", x -> Made.late(x, r[0]),
-                x -> x.toss(r[1]), Due.STATE);
-        }
-        for (int n : new int[] {0, -1, 21, Edge.MOST, Edge.LEAST}) {
-            Edge.refuses("27: toss(" + n + ") at the last", x -> Made.late(x, 0), x -> x.toss(n), Due.BEYOND);
-        }
+        Edge.state("27: toss", (x, n) -> x.toss(n), 20);
     }
 
     /** 27: "THE LIST tells for this DROP": the place of DROP modulo 6 and no other. */

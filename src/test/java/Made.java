@@ -18,6 +18,22 @@ final class Made {
         x.set(0, 13);
     }
 
+    /** An aunt who is found WRONG at each DROP: 11 TURNS and the 10 that she jolts are odd. */
+    static void angry(ToastCourt x) {
+        x.disputant(1, 99);
+        x.disputant(2, 10);
+        x.change(0, 2, 99);
+        x.set(0, 11);
+    }
+
+    /** 60 is the one HEIGHT whose slice stands (17 TURNS and 9) and then falls for the other one (17 and 8). */
+    static void highest(ToastCourt x) {
+        x.disputant(0, 0);
+        x.disputant(2, 99);
+        x.change(0, 2, 90);
+        x.set(1, 8);
+    }
+
     static void nothingListed(ToastCourt x) {
         for (int i = 0; i < 6; i++) {
             x.dispute(i, 7, 7);
@@ -25,8 +41,8 @@ final class Made {
     }
 
     /**
-     * Eight of them, of all kinds, at DROP 11 with HEIGHT 32 and SPREAD 7; nothing is as at first, and
-     * an image is kept that is other in all that it keeps.
+     * Eight of them, of all kinds, at DROP 11 with HEIGHT 32, SPREAD 7 and EDGES 2; little is as at
+     * first, and an image is kept that is other in all but who is there.
      */
     static void full(ToastCourt x) {
         for (int d = 0; d < 8; d++) {
@@ -35,11 +51,15 @@ final class Made {
         x.change(1, 5, 1);
         x.hold(0, 7);
         x.hold(9, 3);
-        x.set(0, 31);
+        // A lawyer's and a parson's slice stands from 13 where DROP is even.
+        x.dispute(0, 2, 3);
+        x.set(0, 13);
         x.seed(4711);
         x.go(4);
+        x.set(0, 31);
         x.image();
         x.toss(2);
+        x.set(0, 13);
         x.go(5);
         x.change(1, 5, 0);
         x.change(6, 5, 1);
